@@ -1,0 +1,42 @@
+/** Collects what is not as due; a test ends with end(). */
+final class Due {
+    private final String name;
+    private int promise;
+    private int asked;
+    private int wrong;
+
+    Due(String name) {
+        this.name = name;
+    }
+
+    /** The promise of the document that the next questions are about. */
+    void promise(int number) {
+        promise = number;
+    }
+
+    void is(String call, long got, long want) {
+        asked++;
+        if (got != want) {
+            wrong++;
+            if (wrong <= 50) {
+                System.out.println(name + ", promise " + promise + ": " + call
+                        + " answered " + got + ", due is " + want);
+            }
+        }
+    }
+
+    void holds(String what, boolean is) {
+        is(what, is ? 1 : 0, 1);
+    }
+
+    boolean isClean() {
+        return wrong == 0;
+    }
+
+    void end() {
+        System.out.println(name + ": " + asked + " asked, " + wrong + " not as due");
+        if (wrong != 0) {
+            System.exit(1);
+        }
+    }
+}
