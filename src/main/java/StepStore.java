@@ -619,7 +619,7 @@ public final class StepStore {
             kinds[slot] = kind;
             // What a kind has not is NONE, so that acts that differ there alone are the same.
             ds[slot] = SORT_OF_D[kind] == ABSENT ? NONE : d;
-            xs[slot] = SORT_OF_X[kind] == ABSENT ? NONE : x;
+            xs[slot] = x;
             ys[slot] = SORT_OF_Y[kind] == ABSENT ? NONE : y;
             reads[slot] = readsOf(kind, x, y);
             writes[slot] = writesOf(kind, d);
@@ -708,7 +708,9 @@ public final class StepStore {
             length = rows.lengths[instruction];
             learnParts(instruction, buses);
             learnNeeds(instruction);
-            Arrays.fill(tooFew, 0, 1 << length, (byte) 0);
+            for (int done = 0; done < 1 << length; done++) {
+                tooFew[done] = 0;
+            }
             words = 0;
             while (!fill(this, 0, 0) && words < length) {
                 words++;
@@ -864,7 +866,9 @@ public final class StepStore {
         }
 
         void dropAll() {
-            Arrays.fill(made, false);
+            for (int instruction = 0; instruction < INSTRUCTIONS; instruction++) {
+                made[instruction] = false;
+            }
         }
 
         /** The least act for which act i can't be in a lesser word, or NONE. */

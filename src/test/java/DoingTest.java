@@ -178,6 +178,9 @@ public final class DoingTest {
         bothWays("a SKIP that does not", x, 0, 2, 3, 1);
         x.act(1, 9, 0, 1, 0);
         bothWays("a SKIP alone", x, 1, 1, 3, 1);
+        x.flag(1, true);
+        bothWays("a SKIP by TOP that does not hold", x, 1, 0, 3, 1);
+        x.flag(1, false);
         x.act(2, 7, 3, 2, 0);
         x.act(2, 9, 0, 0, 0);
         bothWays("a TRAP beside a SKIP that holds", x, 2, 2, 3, 1);

@@ -140,6 +140,7 @@ public final class InsideTest {
         DUE.is("flag(0, false)", x.flag(0, false), 1);
         DUE.is("flag(0, false) again", x.flag(0, false), 0);
         DUE.is("flag(1, true)", x.flag(1, true), 0);
+        DUE.is("flag(1, true) again", x.flag(1, true), 1);
         DUE.is("flag(2, true)", x.flag(2, true), -3);
         DUE.is("flag(-1, true)", x.flag(-1, true), -3);
         DUE.is("status -3", x.status(-3), 2);
