@@ -21,6 +21,7 @@ public final class DoingEdgeTest {
         shiftEnds();
         trapEnds();
         trapAtTheEndsOfARow();
+        trapBehindTheMostWrites();
         skipAtTheEndsOfARow();
         flagsOfTests();
         toldEnds();
@@ -67,12 +68,6 @@ public final class DoingEdgeTest {
         Twins.outside(DUE, name + ": count", state, 0, 2, -6, v -> x -> x.count(v));
     }
 
-    private static void told(String what, StepStore x, int acts, int words, int trapped) {
-        DUE.is(what + ": told(0)", x.told(0), acts);
-        DUE.is(what + ": told(1)", x.told(1), words);
-        DUE.is(what + ": told(2)", x.told(2), trapped);
-    }
-
     private static void runOfNoActs(String name, Consumer<StepStore> state) {
         for (boolean words : new boolean[] {false, true}) {
             DUE.promise(22);
@@ -83,7 +78,7 @@ public final class DoingEdgeTest {
             x.run(States.EMPTY, words);
             DUE.is(name + ": nothing is another by it", x.restore(), 0);
             DUE.promise(23);
-            told(name + ": no acts", x, 0, 0, -1);
+            DUE.told(name + ": no acts", x, 0, 0, -1);
         }
         DUE.promise(24);
         Twins.taken(DUE, name + ": beside of no acts", state, x -> x.beside(States.EMPTY), 0);
@@ -252,6 +247,27 @@ public final class DoingEdgeTest {
         }
     }
 
+    /** Nine acts of the WORKER: each writes a REGISTER, some of them twice and more, and both FLAGS. */
+    private static void trapBehindTheMostWrites() {
+        for (boolean words : new boolean[] {false, true}) {
+            for (int different = 1; different <= 8; different++) {
+                StepStore x = new StepStore();
+                for (int r = 0; r < 8; r++) {
+                    x.set(r, 1000 + r);
+                }
+                x.flag(0, true);
+                for (int i = 0; i < 9; i++) {
+                    x.act(0, 2, i % different, i % different, 7 - i % different);
+                }
+                x.act(0, 10, 0, 0, 0);
+                x.image();
+                DUE.is("a TRAP behind nine acts that write", x.run(0, words), 2);
+                DUE.is("all is as ahead of it", x.restore(), 0);
+                DUE.is("told of it", x.told(2), 9);
+            }
+        }
+    }
+
     private static void skipAtTheEndsOfARow() {
         for (int at = 0; at < 10; at++) {
             for (boolean words : new boolean[] {false, true}) {
@@ -303,16 +319,16 @@ public final class DoingEdgeTest {
         StepStore x = new StepStore();
         x.act(0, 10, 0, 0, 0);
         x.run(0, true);
-        told("a TRAP", x, 1, 1, 0);
+        DUE.told("a TRAP", x, 1, 1, 0);
         x.beside(1);
         x.run(12, false);
         x.run(-1, true);
         x.step(1);
         x.step(-1);
-        told("neither beside, refused runs, nor step() without a STEP", x, 1, 1, 0);
+        DUE.told("neither beside, refused runs, nor step() without a STEP", x, 1, 1, 0);
         x.code(0, 1);
         x.step(1);
-        told("a STEP of no acts", x, 0, 0, -1);
+        DUE.told("a STEP of no acts", x, 0, 0, -1);
     }
 
     private static void toldOfFullRows() {
@@ -321,21 +337,21 @@ public final class DoingEdgeTest {
             x.act(0, 0, 0, i, 0);
         }
         x.run(0, false);
-        told("ten, plain", x, 10, 0, -1);
+        DUE.told("ten, plain", x, 10, 0, -1);
         x.run(0, true);
-        told("ten words", x, 10, 10, -1);
+        DUE.told("ten words", x, 10, 10, -1);
         x.act(1, 0, 1, 0, 0);
         x.act(1, 6, 2, 3, 0);
         x.act(1, 7, 4, 5, 0);
         x.act(1, 0, 6, 0, 0);
         x.set(5, 64);
         x.run(1, true);
-        told("of WORD 0, which TRAPPED: 0 and 2, for 1 waits", x, 2, 1, 2);
+        DUE.told("of WORD 0, which TRAPPED: 0 and 2, for 1 waits", x, 2, 1, 2);
         x.run(1, false);
-        told("plain: 0, 1 and 2", x, 3, 0, 2);
+        DUE.told("plain: 0, 1 and 2", x, 3, 0, 2);
         x.set(5, 63);
         x.run(1, true);
-        told("one cell less: all", x, 4, 2, -1);
+        DUE.told("one cell less: all", x, 4, 2, -1);
     }
 
     private static void besideEnds() {
@@ -355,7 +371,7 @@ public final class DoingEdgeTest {
             x.image();
             DUE.is("both end alike", x.beside(0), 0);
             DUE.is("nothing is another", x.restore(), 0);
-            told("nothing is told", x, 0, 0, -1);
+            DUE.told("nothing is told", x, 0, 0, -1);
             DUE.is("it is not packed", x.word(0, 0), -2);
             DUE.is("no STEP", x.count(0) + x.count(1) + x.count(2), 0);
             DUE.is("it ends so indeed", x.run(0, false), how);
@@ -508,14 +524,14 @@ public final class DoingEdgeTest {
         DUE.is("a STEP of no acts is one", x.step(3), 3);
         DUE.is("PC", x.register(7), 3);
         DUE.is("no TRAP", x.count(1), 0);
-        told("a STEP of no acts", x, 0, 0, -1);
+        DUE.told("a STEP of no acts", x, 0, 0, -1);
         StepStore y = new StepStore();
         y.act(0, 9, 0, 0, 0);
         y.act(0, 0, 1, 1, 0);
         y.code(0, 0);
         DUE.is("a STEP that SKIPS goes on", y.step(4), 4);
         DUE.is("no TRAP", y.count(1), 0);
-        told("a STEP that SKIPS", y, 1, 1, -1);
+        DUE.told("a STEP that SKIPS", y, 1, 1, -1);
     }
 
     private static void countEnds() {

@@ -199,49 +199,43 @@ public final class DoingTest {
         DUE.is("status -3", x.status(-3), 2);
     }
 
-    private static void told(String what, StepStore x, int acts, int words, int trapped) {
-        DUE.is(what + ": told(0)", x.told(0), acts);
-        DUE.is(what + ": told(1)", x.told(1), words);
-        DUE.is(what + ": told(2)", x.told(2), trapped);
-    }
-
     private static void told() {
         DUE.promise(23);
         StepStore x = new StepStore();
-        told("ahead of any", x, 0, 0, -1);
+        DUE.told("ahead of any", x, 0, 0, -1);
         x.set(2, 64);
         x.act(0, 0, 3, 1, 0);
         x.act(0, 6, 5, 6, 0);
         x.act(0, 9, 0, 0, 0);
         x.act(0, 0, 4, 2, 0);
         x.run(0, false);
-        told("a SKIP, plain", x, 3, 0, -1);
+        DUE.told("a SKIP, plain", x, 3, 0, -1);
         x.run(0, true);
-        told("a SKIP, by words", x, 3, 1, -1);
+        DUE.told("a SKIP, by words", x, 3, 1, -1);
         x.flag(0, true);
         x.run(0, true);
-        told("all, by words", x, 4, 2, -1);
+        DUE.told("all, by words", x, 4, 2, -1);
         x.run(0, false);
-        told("all, plain", x, 4, 0, -1);
+        DUE.told("all, plain", x, 4, 0, -1);
         x.act(1, 0, 3, 1, 0);
         x.act(1, 7, 5, 2, 0);
         x.act(1, 9, 0, 0, 0);
         x.act(1, 0, 3, 1, 0);
         x.run(1, false);
-        told("a TRAP, plain", x, 2, 0, 1);
+        DUE.told("a TRAP, plain", x, 2, 0, 1);
         x.run(1, true);
-        told("a TRAP, by words: all of its word", x, 3, 1, 1);
+        DUE.told("a TRAP, by words: all of its word", x, 3, 1, 1);
         x.beside(0);
         x.run(12, true);
         x.step(0);
-        told("beside and refused calls tell nothing", x, 3, 1, 1);
+        DUE.told("beside and refused calls tell nothing", x, 3, 1, 1);
         x.step(3);
-        told("no step was done", x, 3, 1, 1);
+        DUE.told("no step was done", x, 3, 1, 1);
         x.code(0, 0);
         x.step(1);
-        told("a step", x, 4, 2, -1);
+        DUE.told("a step", x, 4, 2, -1);
         x.run(5, true);
-        told("no acts", x, 0, 0, -1);
+        DUE.told("no acts", x, 0, 0, -1);
         DUE.is("told(3)", x.told(3), -6);
         DUE.is("told(-1)", x.told(-1), -6);
         DUE.is("status -6", x.status(-6), 3);

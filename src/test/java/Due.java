@@ -29,6 +29,13 @@ final class Due {
         is(what, is ? 1 : 0, 1);
     }
 
+    /** What told() has of the latest instruction. */
+    void told(String what, StepStore x, int acts, int words, int trapped) {
+        is(what + ": told(0)", x.told(0), acts);
+        is(what + ": told(1)", x.told(1), words);
+        is(what + ": told(2)", x.told(2), trapped);
+    }
+
     boolean isClean() {
         return wrong == 0;
     }
