@@ -1,7 +1,7 @@
 /** Collects what is not as due; a test ends with end(). */
 final class Due {
     private final String name;
-    private int promise;
+    private String about = "";
     private int asked;
     private int wrong;
 
@@ -11,7 +11,12 @@ final class Due {
 
     /** The promise of the document that the next questions are about. */
     void promise(int number) {
-        promise = number;
+        about = "promise " + number;
+    }
+
+    /** The sentence of the document's Terms that the next questions are about. */
+    void sentence(String words) {
+        about = "\"" + words + "\"";
     }
 
     void is(String call, long got, long want) {
@@ -19,7 +24,7 @@ final class Due {
         if (got != want) {
             wrong++;
             if (wrong <= 50) {
-                System.out.println(name + ", promise " + promise + ": " + call
+                System.out.println(name + ", " + about + ": " + call
                         + " answered " + got + ", due is " + want);
             }
         }
